@@ -11,7 +11,10 @@ public final class KnockLane {
     private static final int ONES = 20;
     private static final int WITHIN = 8;
     private static final int UNDOS = 8;
-    private static final int IMAGES = 2;
+
+    private static final int PLACES_UNTOLD = 10;
+    private static final int EAR_UNTOLD = 2;
+    private static final int STAY_UNTOLD = 3;
 
     private static final int TAPE_BYTES = 940;
     private static final int FEED_BYTES = 20;
@@ -86,14 +89,12 @@ public final class KnockLane {
     private final Tape tape = new Tape();
     private final Street here = new Street();
     private final Street draft = new Street();
-    private final Street[] images = new Street[IMAGES];
+    private final Street firstImage = new Street();
+    private final Street secondImage = new Street();
     private final Past past = new Past(here.quarter);
     private final Scene ahead = new Scene(here.quarter);
-    private final Draws draws = new Draws();
-    private final Book bookNow = new Book();
     private final QuarterReader quarterReader = new QuarterReader(tape, draft);
-    private final BookReader bookReader = new BookReader(tape, here.quarter, bookNow);
-    private final SayingReader sayingReader = new SayingReader(tape, here.quarter, draft.saying);
+    private final Book bookNow = new Book(tape, here.quarter);
     private final Matching matching = new Matching();
     private final Chain lastChain = new Chain();
     private final Label label = new Label(tape.words);
@@ -102,9 +103,7 @@ public final class KnockLane {
     private int lastAsk = NONE;
 
     public KnockLane() {
-        for (int k = 0; k < IMAGES; k++) {
-            images[k] = new Street();
-        }
+        // All that any call needs is made by the fields above, once.
     }
 
     public int feed(int a, int b, int c, int d, int e) {
@@ -360,8 +359,7 @@ public final class KnockLane {
             return NONE;
         }
         past.note(here.scene);
-        draws.start(seed);
-        return past.keepIfAny(here.scene.letDrawnTicksGo(n, draws));
+        return past.keepIfAny(here.scene.letDrawnTicksGo(n, seed));
     }
 
     public int odds(int p, int n, int seed) {
@@ -371,8 +369,7 @@ public final class KnockLane {
         int inside = 0;
         for (int i = 0; i < n; i++) {
             ahead.copyFrom(here.scene);
-            draws.start(seed + i);
-            ahead.letDrawnTicksGo(ODDS_TICKS, draws);
+            ahead.letDrawnTicksGo(ODDS_TICKS, seed + i);
             if (ahead.isInside(p)) {
                 inside++;
             }
@@ -384,7 +381,7 @@ public final class KnockLane {
         if (lives != 0 && lives != 1) {
             return -1000;
         }
-        boolean readable = bookReader.readAll();
+        boolean readable = bookNow.readAll();
         finishReading();
         if (!readable) {
             return -2 - tape.faultPlace;
@@ -405,7 +402,7 @@ public final class KnockLane {
     }
 
     public int sentence() {
-        boolean readable = sayingReader.readAll();
+        boolean readable = draft.saying.readAll(tape, here.quarter);
         finishReading();
         if (!readable) {
             return -1 - tape.faultPlace;
@@ -423,19 +420,21 @@ public final class KnockLane {
     }
 
     public boolean image(int k) {
-        if (k < 0 || k >= IMAGES) {
+        Street kept = imageOf(k);
+        if (kept == null) {
             return false;
         }
-        images[k].copyFrom(here);
-        images[k].kept = true;
+        kept.copyFrom(here);
+        kept.isKept = true;
         return true;
     }
 
     public boolean restore(int k) {
-        if (k < 0 || k >= IMAGES || !images[k].kept) {
+        Street kept = imageOf(k);
+        if (kept == null || !kept.isKept) {
             return false;
         }
-        here.copyFrom(images[k]);
+        here.copyFrom(kept);
         past.forget();
         return true;
     }
@@ -458,6 +457,13 @@ public final class KnockLane {
             default:
                 return NONE;
         }
+    }
+
+    private Street imageOf(int k) {
+        if (k == 0) {
+            return firstImage;
+        }
+        return k == 1 ? secondImage : null;
     }
 
     private void finishReading() {
@@ -571,71 +577,58 @@ public final class KnockLane {
                 next++;
             }
             begin = next;
+            number = byteOf(next);
             if (size > mostBytes && next >= mostBytes) {
                 // A text that is too long is refused where it should have ended, whatever stands there.
                 begin = mostBytes;
                 kind = NO_TOKEN;
             } else if (next >= size) {
                 kind = END;
-            } else if (isLetter(byteOf(next)) || isDigit(byteOf(next))) {
-                takeRun();
-            } else {
-                number = byteOf(next);
-                kind = isSign(number) ? SIGN : NO_TOKEN;
+            } else if (isSign(number)) {
+                kind = SIGN;
                 next++;
+            } else {
+                takeRun();
+                nameWord();
             }
         }
 
+        /** Bytes that belong to no TOKEN make an empty run, which is none either. */
         private void takeRun() {
             int letters = 0;
             int digits = 0;
             name = 0;
             number = 0;
-            for (; next < size; next++) {
-                int b = byteOf(next);
-                if (isLetter(b)) {
+            for (; next < size && next < TAPE_BYTES; next++) {
+                int b = bytes[next];
+                if (b >= 'a' && b <= 'z') {
                     letters++;
                     name = name << 5 | b - BEFORE_A;
-                } else if (isDigit(b)) {
+                } else if (b >= '0' && b <= '9') {
                     digits++;
                     number = number * 10 + b - '0';
                 } else {
                     break;
                 }
             }
-            kind = kindOfRun(letters, digits);
-            if (kind == WORD) {
-                number = wordNumber(name);
-                kind = number == NONE ? NAME : WORD;
+            if (digits == 0 && letters >= 1 && letters <= 8) {
+                kind = NAME;
+            } else {
+                kind = letters == 0 && digits >= 1 && digits <= 3 ? NUMBER : NO_TOKEN;
             }
         }
 
-        private static int kindOfRun(int letters, int digits) {
-            if (digits == 0 && letters <= 8) {
-                return WORD;
-            }
-            return letters == 0 && digits <= 3 ? NUMBER : NO_TOKEN;
-        }
-
-        private int wordNumber(long code) {
-            for (int w = 0; w < WORDS; w++) {
-                if (words[w] == code) {
-                    return w;
+        private void nameWord() {
+            for (int w = 0; w < WORDS && kind == NAME; w++) {
+                if (words[w] == name) {
+                    kind = WORD;
+                    number = w;
                 }
             }
-            return NONE;
         }
 
         private static boolean isBlank(int b) {
             return b == ' ' || b == '\n';
-        }
-
-        private static boolean isLetter(int b) {
-            return b >= 'a' && b <= 'z';
-        }
-
-        private static boolean isDigit(int b) {
-            return b >= '0' && b <= '9';
         }
 
         private static boolean isSign(int b) {
@@ -669,6 +662,14 @@ public final class KnockLane {
             }
             take();
             return true;
+        }
+
+        int takeCompare() {
+            take();
+            if (isSignOf('<') || isSignOf('=') || isSignOf('>')) {
+                return number;
+            }
+            return refuse(CANNOT_COME);
         }
 
         int takeNumber(int least, int greatest) {
@@ -731,9 +732,9 @@ public final class KnockLane {
 
     /** What a text tells once for all: it stays until another QUARTER comes. */
     private static final class Quarter {
-        int places;
-        int ear;
-        int stay;
+        int places = PLACES_UNTOLD;
+        int ear = EAR_UNTOLD;
+        int stay = STAY_UNTOLD;
         int houses;
         int persons;
         private final int[] housePlace = new int[HOUSES];
@@ -743,16 +744,10 @@ public final class KnockLane {
         private final int[] stern = new int[PERSONS];
         private final long[] personName = new long[PERSONS];
 
-        Quarter() {
-            places = 10;
-            ear = 2;
-            stay = 3;
-        }
-
         void clear() {
-            places = 10;
-            ear = 2;
-            stay = 3;
+            places = PLACES_UNTOLD;
+            ear = EAR_UNTOLD;
+            stay = STAY_UNTOLD;
             houses = 0;
             persons = 0;
         }
@@ -801,7 +796,7 @@ public final class KnockLane {
         }
 
         int findHouse(long name) {
-            for (int h = 0; hasHouse(h); h++) {
+            for (int h = 0; h < houses && h < HOUSES; h++) {
                 if (houseName[h] == name) {
                     return h;
                 }
@@ -810,7 +805,7 @@ public final class KnockLane {
         }
 
         int findPerson(long name) {
-            for (int p = 0; hasPerson(p); p++) {
+            for (int p = 0; p < persons && p < PERSONS; p++) {
                 if (personName[p] == name) {
                     return p;
                 }
@@ -823,7 +818,7 @@ public final class KnockLane {
         }
 
         int livingIn(int h) {
-            return hasHouse(h) ? living[h] : 0;
+            return h >= 0 && h < houses && h < HOUSES ? living[h] : 0;
         }
 
         long nameOfHouse(int h) {
@@ -859,6 +854,7 @@ public final class KnockLane {
         private final int[] knows = new int[PERSONS];
         private final int[] waited = new int[PERSONS];
         private final int[] opened = new int[PERSONS];
+        private int drawn;
 
         Scene(Quarter quarter) {
             this.quarter = quarter;
@@ -985,7 +981,7 @@ public final class KnockLane {
 
         int thoseWhoAre(int state) {
             int bits = 0;
-            for (int p = 0; quarter.hasPerson(p); p++) {
+            for (int p = 0; p < PERSONS && p < quarter.persons; p++) {
                 if (how[p] == state) {
                     bits |= 1 << p;
                 }
@@ -995,7 +991,7 @@ public final class KnockLane {
 
         int thoseAt(int h, int state) {
             int bits = 0;
-            for (int p = 0; quarter.hasPerson(p); p++) {
+            for (int p = 0; p < PERSONS && p < quarter.persons; p++) {
                 if (how[p] == state && door[p] == h) {
                     bits |= 1 << p;
                 }
@@ -1015,7 +1011,7 @@ public final class KnockLane {
 
         int openedInAll() {
             int sum = 0;
-            for (int p = 0; quarter.hasPerson(p); p++) {
+            for (int p = 0; p < PERSONS && p < quarter.persons; p++) {
                 sum += opened[p];
             }
             return sum;
@@ -1023,7 +1019,7 @@ public final class KnockLane {
 
         int knownInAll() {
             int sum = 0;
-            for (int p = 0; quarter.hasPerson(p); p++) {
+            for (int p = 0; p < PERSONS && p < quarter.persons; p++) {
                 sum += Integer.bitCount(knows[p]);
             }
             return sum;
@@ -1032,7 +1028,7 @@ public final class KnockLane {
         int whoOpenedMost() {
             int best = NONE;
             int bestTimes = 0;
-            for (int p = 0; quarter.hasPerson(p); p++) {
+            for (int p = 0; p < PERSONS && p < quarter.persons; p++) {
                 if (opened[p] > bestTimes) {
                     best = p;
                     bestTimes = opened[p];
@@ -1127,7 +1123,7 @@ public final class KnockLane {
                 return;
             }
             knows[p] |= others;
-            for (int q = 0; quarter.hasPerson(q); q++) {
+            for (int q = 0; q < PERSONS && q < quarter.persons; q++) {
                 if (hasBit(others, q)) {
                     knows[q] |= 1 << p;
                 }
@@ -1142,30 +1138,31 @@ public final class KnockLane {
             return gone;
         }
 
-        int letDrawnTicksGo(int n, Draws draws) {
+        int letDrawnTicksGo(int n, int seed) {
+            drawn = seed;
             int gone = 0;
             for (; gone < n && tick < LAST_TICK; gone++) {
                 for (int p = 0; p < quarter.persons; p++) {
-                    actByDraw(p, draws);
+                    actByDraw(p);
                 }
                 letTickGo();
             }
             return gone;
         }
 
-        private void actByDraw(int p, Draws draws) {
-            switch (draws.draw(8)) {
+        private void actByDraw(int p) {
+            switch (draw(8)) {
                 case 0:
                     if (quarter.houses > 0) {
-                        tryKnock(p, draws.draw(quarter.houses));
+                        tryKnock(p, draw(quarter.houses));
                     }
                     break;
                 case 1:
-                    tryGo(p, draws.draw(WAYS));
+                    tryGo(p, draw(WAYS));
                     break;
                 case 2:
                     if (quarter.houses > 0) {
-                        tryCall(p, draws.draw(quarter.houses));
+                        tryCall(p, draw(quarter.houses));
                     }
                     break;
                 case 3:
@@ -1174,6 +1171,11 @@ public final class KnockLane {
                 default:
                     break;
             }
+        }
+
+        private int draw(int n) {
+            drawn = drawn * 1103515245 + 12345;
+            return n > 0 ? (drawn >>> 8) % n : 0;
         }
 
         /** One TICK, past the last one too: those who look ahead are not bound by it. */
@@ -1189,8 +1191,14 @@ public final class KnockLane {
                 callAtDoor(p);
             }
             int busy = 0;
-            for (int p = 0; p < persons; p++) {
-                busy |= beAnswered(p, busy);
+            for (int p = 0; p < PERSONS && p < persons; p++) {
+                int who = answererOf(p, busy);
+                if (who != NONE) {
+                    busy |= 1 << who;
+                    openDoor(who, p);
+                } else if (how[p] == KNOCKING) {
+                    waited[p]++;
+                }
             }
             tick++;
         }
@@ -1239,20 +1247,6 @@ public final class KnockLane {
             callCount--;
         }
 
-        /** Answers the bit of the one who has answered, so that he does so once in a TICK. */
-        private int beAnswered(int p, int busy) {
-            if (!isKnocking(p)) {
-                return 0;
-            }
-            int who = answererOf(p, busy);
-            if (!quarter.hasPerson(who)) {
-                waited[p]++;
-                return 0;
-            }
-            openDoor(who, p);
-            return 1 << who;
-        }
-
         private void openDoor(int who, int p) {
             if (!quarter.hasPerson(who) || !quarter.hasPerson(p)) {
                 return;
@@ -1270,14 +1264,12 @@ public final class KnockLane {
         }
 
         int answererOf(int p, int busy) {
-            if (!isKnocking(p)) {
-                return NONE;
-            }
+            int could = thoseWhoCouldAnswer(p) & ~busy;
             int best = NONE;
             int bestFar = 0;
-            for (int q = 0; quarter.hasPerson(q); q++) {
+            for (int q = 0; q < PERSONS && q < quarter.persons && quarter.hasPerson(p); q++) {
                 int far = Math.abs(place[q] - place[p]);
-                if (!hasBit(busy, q) && couldAnswer(q, p) && (best == NONE || far < bestFar)) {
+                if (hasBit(could, q) && (best == NONE || far < bestFar)) {
                     best = q;
                     bestFar = far;
                 }
@@ -1286,15 +1278,16 @@ public final class KnockLane {
         }
 
         /** Who KNOCKS is at the HOUSE's PLACE, so his own tells how far it is. */
-        private boolean couldAnswer(int q, int p) {
-            return isInLane(q) && isKnocking(p)
-                && Math.abs(place[q] - place[p]) <= quarter.ear && isStranger(q, door[p]);
-        }
-
         int thoseWhoCouldAnswer(int p) {
+            if (!quarter.hasPerson(p) || how[p] != KNOCKING) {
+                return 0;
+            }
             int bits = 0;
-            for (int q = 0; q < quarter.persons; q++) {
-                if (couldAnswer(q, p)) {
+            int living = quarter.livingIn(door[p]);
+            for (int q = 0; q < PERSONS && q < quarter.persons; q++) {
+                boolean near = Math.abs(place[q] - place[p]) <= quarter.ear;
+                boolean stranger = ((knows[q] | 1 << q) & living) == 0;
+                if (how[q] == IN_LANE && near && stranger) {
                     bits |= 1 << q;
                 }
             }
@@ -1306,7 +1299,7 @@ public final class KnockLane {
                 return 0;
             }
             int bits = 0;
-            for (int p = 0; quarter.hasPerson(p); p++) {
+            for (int p = 0; p < PERSONS && p < quarter.persons; p++) {
                 if (!hasBit(yes | no, p) && (knows[p] & (yes | no)) == yes) {
                     bits |= 1 << p;
                 }
@@ -1317,7 +1310,7 @@ public final class KnockLane {
         int bestToAsk(int these) {
             int best = NONE;
             int bestLeft = 0;
-            for (int p = 0; quarter.hasPerson(p); p++) {
+            for (int p = 0; p < PERSONS && p < quarter.persons; p++) {
                 int self = these & 1 << p;
                 int yes = Integer.bitCount(these & knows[p]);
                 int no = Integer.bitCount(these & ~knows[p] & ~self);
@@ -1336,7 +1329,7 @@ public final class KnockLane {
         final Quarter quarter = new Quarter();
         final Scene scene = new Scene(quarter);
         final Saying saying = new Saying();
-        boolean kept;
+        boolean isKept;
 
         void copyFrom(Street other) {
             quarter.copyFrom(other.quarter);
@@ -1395,19 +1388,6 @@ public final class KnockLane {
 
         void forget() {
             size = 0;
-        }
-    }
-
-    private static final class Draws {
-        private int x;
-
-        void start(int seed) {
-            x = seed;
-        }
-
-        int draw(int n) {
-            x = x * 1103515245 + 12345;
-            return n > 0 ? (x >>> 8) % n : 0;
         }
     }
 
@@ -1565,6 +1545,8 @@ public final class KnockLane {
     private static final class Book {
         int why;
         int lived;
+        private final Tape tape;
+        private final Quarter quarter;
         private final int[] act = new int[LINES];
         private final int[] one = new int[LINES];
         private final int[] other = new int[LINES];
@@ -1573,15 +1555,74 @@ public final class KnockLane {
         private int tickThen;
         private int insideThen;
 
-        void clear() {
+        Book(Tape tape, Quarter quarter) {
+            this.tape = tape;
+            this.quarter = quarter;
+        }
+
+        boolean readAll() {
             size = 0;
+            tape.startReading(BOOK_BYTES);
+            for (int lines = 0; lines < TAPE_BYTES && !tape.isEnd(); lines++) {
+                if (!readLine() || !tape.takeLineEnd()) {
+                    return false;
+                }
+            }
+            return true;
         }
 
-        boolean isFull() {
-            return size >= LINES;
+        private boolean readLine() {
+            boolean ticks = tape.isWord(W_TICK);
+            int p = ticks ? NONE : tape.personHere(quarter);
+            if (!ticks && p == NONE) {
+                return false;
+            }
+            if (size >= LINES) {
+                tape.refuse(TOO_MANY);
+                return false;
+            }
+            return ticks ? readTicks() : readAct(p);
         }
 
-        void add(int verb, int a, int b) {
+        private boolean readTicks() {
+            int n = tape.takeNumber(1, TICKS_AT_ONCE);
+            add(W_TICK, n, 0);
+            return n != NONE;
+        }
+
+        private boolean readAct(int p) {
+            tape.take();
+            int verb = tape.kind == WORD ? tape.number : NONE;
+            switch (verb) {
+                case W_KNOCKS:
+                case W_CALLS:
+                    return addAct(verb, p, tape.takeHouse(quarter));
+                case W_GOES:
+                    return addAct(verb, p, tape.takeOneOf(W_UP, W_STANDS));
+                case W_QUITS:
+                    return addAct(verb, p, 0);
+                case W_MEETS:
+                    return addMeeting(p, tape.takePerson(quarter));
+                default:
+                    tape.refuse(CANNOT_COME);
+                    return false;
+            }
+        }
+
+        private boolean addMeeting(int p, int q) {
+            if (q != NONE && q == p) {
+                tape.refuse(BAD_NAME);
+                return false;
+            }
+            return addAct(W_MEETS, p, q);
+        }
+
+        private boolean addAct(int verb, int p, int other) {
+            add(verb, p, other);
+            return other != NONE;
+        }
+
+        private void add(int verb, int a, int b) {
             if (size < LINES) {
                 act[size] = verb;
                 one[size] = a;
@@ -1673,7 +1714,107 @@ public final class KnockLane {
             System.arraycopy(from.other, 0, other, 0, STEPS);
         }
 
-        void add(int word, int a, int b) {
+        boolean readAll(Tape tape, Quarter quarter) {
+            clear();
+            tape.startReading(SENTENCE_BYTES);
+            if (!readCond(tape, quarter, 1)) {
+                return false;
+            }
+            return tape.isEnd() || refuse(tape, CANNOT_COME);
+        }
+
+        private static boolean refuse(Tape tape, int fault) {
+            tape.refuse(fault);
+            return false;
+        }
+
+        /** An ALL is joined to those ahead of it when it is whole: 'and' binds its ONES before 'or' does. */
+        private boolean readCond(Tape tape, Quarter quarter, int depth) {
+            boolean behindAnd = false;
+            boolean behindOr = false;
+            for (int i = 0; i < SENTENCE_BYTES; i++) {
+                if (!readOne(tape, quarter, depth)) {
+                    return false;
+                }
+                if (behindAnd) {
+                    add(W_AND, 0, 0);
+                }
+                behindAnd = tape.isWord(W_AND);
+                if (!behindAnd) {
+                    if (behindOr) {
+                        add(W_OR, 0, 0);
+                    }
+                    behindOr = tape.isWord(W_OR);
+                    if (!behindOr) {
+                        return true;
+                    }
+                }
+                tape.take();
+            }
+            return refuse(tape, CANNOT_COME);
+        }
+
+        private boolean readOne(Tape tape, Quarter quarter, int depth) {
+            boolean bracket = tape.isSignOf('(');
+            int word = tape.kind == WORD ? tape.number : NONE;
+            if (!bracket && !canBeginOne(word)) {
+                return refuse(tape, CANNOT_COME);
+            }
+            if (ones >= ONES || depth > WITHIN) {
+                return refuse(tape, TOO_MANY);
+            }
+            ones++;
+            if (bracket) {
+                return readBracket(tape, quarter, depth);
+            }
+            return word == W_NOT ? readNot(tape, quarter, depth) : readPlainOne(tape, quarter, word);
+        }
+
+        private static boolean canBeginOne(int word) {
+            return word == W_STERN || word == W_KNOWS || word >= W_NOT && word <= W_NUMBER;
+        }
+
+        private boolean readBracket(Tape tape, Quarter quarter, int depth) {
+            tape.take();
+            if (!readCond(tape, quarter, depth + 1)) {
+                return false;
+            }
+            if (!tape.isSignOf(')')) {
+                return refuse(tape, CANNOT_COME);
+            }
+            tape.take();
+            return true;
+        }
+
+        private boolean readNot(Tape tape, Quarter quarter, int depth) {
+            tape.take();
+            if (!readOne(tape, quarter, depth + 1)) {
+                return false;
+            }
+            add(W_NOT, 0, 0);
+            return true;
+        }
+
+        private boolean readPlainOne(Tape tape, Quarter quarter, int word) {
+            int a = 0;
+            int b = 0;
+            if (word == W_KNOWS) {
+                a = tape.takePerson(quarter);
+            } else if (word == W_OF) {
+                a = tape.takeHouse(quarter);
+            } else if (word >= W_PLACE) {
+                a = tape.takeCompare();
+                b = a == NONE ? NONE : tape.takeNumber(0, 999);
+            }
+            if (a == NONE || b == NONE) {
+                return false;
+            }
+            add(word, a, b);
+            tape.take();
+            return true;
+        }
+
+        private void add(int word, int a, int b) {
             if (size < STEPS) {
                 act[size] = word;
                 one[size] = a;
@@ -1851,7 +1992,7 @@ public final class KnockLane {
             if (name == 0) {
                 return false;
             }
-            int place = takePlace();
+            int place = tape.takeNumber(0, quarter.places - 1);
             if (place == NONE) {
                 return false;
             }
@@ -1873,7 +2014,7 @@ public final class KnockLane {
             if (!tramp && home == NONE) {
                 return false;
             }
-            int place = takePlace();
+            int place = tape.takeNumber(0, quarter.places - 1);
             int way = place == NONE ? NONE : tape.takeOneOf(W_UP, W_STANDS);
             int mood = way == NONE ? NONE : tape.takeOneOf(W_KIND, W_STERN);
             if (mood == NONE) {
@@ -1882,10 +2023,6 @@ public final class KnockLane {
             quarter.addPerson(name, home, mood);
             scene.addPerson(quarter.persons - 1, place, way);
             return true;
-        }
-
-        private int takePlace() {
-            return tape.takeNumber(0, quarter.places - 1);
         }
 
         private boolean readKnows() {
@@ -1908,203 +2045,6 @@ public final class KnockLane {
                 return false;
             }
             return scene.tryCall(p, h) == 0 || refuse(BAD_NAME);
-        }
-    }
-
-    private static final class BookReader {
-        private final Tape tape;
-        private final Quarter quarter;
-        private final Book book;
-
-        BookReader(Tape tape, Quarter quarter, Book book) {
-            this.tape = tape;
-            this.quarter = quarter;
-            this.book = book;
-        }
-
-        boolean readAll() {
-            book.clear();
-            tape.startReading(BOOK_BYTES);
-            for (int lines = 0; lines < TAPE_BYTES && !tape.isEnd(); lines++) {
-                if (!readLine() || !tape.takeLineEnd()) {
-                    return false;
-                }
-            }
-            return true;
-        }
-
-        private boolean readLine() {
-            boolean ticks = tape.isWord(W_TICK);
-            int p = ticks ? NONE : tape.personHere(quarter);
-            if (!ticks && p == NONE) {
-                return false;
-            }
-            if (book.isFull()) {
-                tape.refuse(TOO_MANY);
-                return false;
-            }
-            return ticks ? readTicks() : readAct(p);
-        }
-
-        private boolean readTicks() {
-            int n = tape.takeNumber(1, TICKS_AT_ONCE);
-            book.add(W_TICK, n, 0);
-            return n != NONE;
-        }
-
-        private boolean readAct(int p) {
-            tape.take();
-            int verb = tape.kind == WORD ? tape.number : NONE;
-            switch (verb) {
-                case W_KNOCKS:
-                case W_CALLS:
-                    return addAct(verb, p, tape.takeHouse(quarter));
-                case W_GOES:
-                    return addAct(verb, p, tape.takeOneOf(W_UP, W_STANDS));
-                case W_QUITS:
-                    return addAct(verb, p, 0);
-                case W_MEETS:
-                    return addAct(verb, p, takeAnother(p));
-                default:
-                    tape.refuse(CANNOT_COME);
-                    return false;
-            }
-        }
-
-        private int takeAnother(int p) {
-            int q = tape.takePerson(quarter);
-            return q != NONE && q == p ? tape.refuse(BAD_NAME) : q;
-        }
-
-        private boolean addAct(int verb, int p, int other) {
-            book.add(verb, p, other);
-            return other != NONE;
-        }
-    }
-
-    private static final class SayingReader {
-        private final Tape tape;
-        private final Quarter quarter;
-        private final Saying saying;
-
-        SayingReader(Tape tape, Quarter quarter, Saying saying) {
-            this.tape = tape;
-            this.quarter = quarter;
-            this.saying = saying;
-        }
-
-        boolean readAll() {
-            saying.clear();
-            tape.startReading(SENTENCE_BYTES);
-            if (!readCond(1)) {
-                return false;
-            }
-            return tape.isEnd() || refuse(CANNOT_COME);
-        }
-
-        private boolean refuse(int fault) {
-            tape.refuse(fault);
-            return false;
-        }
-
-        private boolean readCond(int depth) {
-            if (!readAnds(depth)) {
-                return false;
-            }
-            for (int i = 0; i < SENTENCE_BYTES && tape.isWord(W_OR); i++) {
-                tape.take();
-                if (!readAnds(depth)) {
-                    return false;
-                }
-                saying.add(W_OR, 0, 0);
-            }
-            return true;
-        }
-
-        private boolean readAnds(int depth) {
-            if (!readOne(depth)) {
-                return false;
-            }
-            for (int i = 0; i < SENTENCE_BYTES && tape.isWord(W_AND); i++) {
-                tape.take();
-                if (!readOne(depth)) {
-                    return false;
-                }
-                saying.add(W_AND, 0, 0);
-            }
-            return true;
-        }
-
-        private boolean readOne(int depth) {
-            boolean bracket = tape.isSignOf('(');
-            if (!bracket && !isFirstWord()) {
-                return refuse(CANNOT_COME);
-            }
-            if (saying.ones >= ONES || depth > WITHIN) {
-                return refuse(TOO_MANY);
-            }
-            saying.ones++;
-            if (bracket) {
-                return readBracket(depth);
-            }
-            int word = tape.number;
-            if (word == W_NOT) {
-                return readNot(depth);
-            }
-            return readPlainOne(word);
-        }
-
-        private boolean isFirstWord() {
-            int w = tape.kind == WORD ? tape.number : NONE;
-            return w == W_STERN || w == W_KNOWS || w >= W_NOT && w <= W_NUMBER;
-        }
-
-        private boolean readBracket(int depth) {
-            tape.take();
-            if (!readCond(depth + 1)) {
-                return false;
-            }
-            if (!tape.isSignOf(')')) {
-                return refuse(CANNOT_COME);
-            }
-            tape.take();
-            return true;
-        }
-
-        private boolean readNot(int depth) {
-            tape.take();
-            if (!readOne(depth + 1)) {
-                return false;
-            }
-            saying.add(W_NOT, 0, 0);
-            return true;
-        }
-
-        private boolean readPlainOne(int word) {
-            int a = 0;
-            int b = 0;
-            if (word == W_KNOWS) {
-                a = tape.takePerson(quarter);
-            } else if (word == W_OF) {
-                a = tape.takeHouse(quarter);
-            } else if (word >= W_PLACE) {
-                a = takeCompare();
-                b = a == NONE ? NONE : tape.takeNumber(0, 999);
-            }
-            if (a == NONE || b == NONE) {
-                return false;
-            }
-            saying.add(word, a, b);
-            tape.take();
-            return true;
-        }
-
-        private int takeCompare() {
-            tape.take();
-            if (tape.isSignOf('<') || tape.isSignOf('=') || tape.isSignOf('>')) {
-                return tape.number;
-            }
-            return tape.refuse(CANNOT_COME);
         }
     }
 }
