@@ -954,15 +954,12 @@ public final class KnockLane {
             return quarter.hasPerson(p) ? knows[p] : 0;
         }
 
-        boolean isStranger(int p, int h) {
-            int living = quarter.livingIn(h);
-            return !hasBit(living, p) && (knownTo(p) & living) == 0;
-        }
-
+        /** Nobody KNOWS himself, so who lives there is looked at beside those whom he KNOWS. */
         int strangersOf(int h) {
+            int living = quarter.livingIn(h);
             int bits = 0;
-            for (int p = 0; p < quarter.persons; p++) {
-                if (isStranger(p, h)) {
+            for (int p = 0; p < PERSONS && p < quarter.persons; p++) {
+                if (((knows[p] | 1 << p) & living) == 0) {
                     bits |= 1 << p;
                 }
             }
@@ -1180,44 +1177,49 @@ public final class KnockLane {
 
         /** One TICK, past the last one too: those who look ahead are not bound by it. */
         void letTickGo() {
-            int persons = quarter.persons;
+            int persons = Math.min(PERSONS, quarter.persons);
             for (int p = 0; p < persons; p++) {
-                stayOn(p);
+                if (how[p] == INSIDE) {
+                    stayOn(p);
+                }
             }
             for (int p = 0; p < persons; p++) {
-                walkOn(p);
+                if (how[p] == IN_LANE) {
+                    walkOn(p);
+                }
             }
             for (int p = 0; p < persons; p++) {
-                callAtDoor(p);
+                if (how[p] == IN_LANE) {
+                    callAtDoor(p);
+                }
             }
             int busy = 0;
-            for (int p = 0; p < PERSONS && p < persons; p++) {
-                int who = answererOf(p, busy);
-                if (who != NONE) {
-                    busy |= 1 << who;
-                    openDoor(who, p);
-                } else if (how[p] == KNOCKING) {
-                    waited[p]++;
+            for (int p = 0; p < persons; p++) {
+                if (how[p] == KNOCKING) {
+                    int who = answererOf(p, busy);
+                    if (who == NONE) {
+                        waited[p]++;
+                    } else {
+                        busy |= 1 << who;
+                        openDoor(who, p);
+                    }
                 }
             }
             tick++;
         }
 
         private void stayOn(int p) {
-            if (isInside(p)) {
-                left[p]--;
-                if (left[p] <= 0) {
-                    putInLane(p);
-                }
+            left[p]--;
+            if (left[p] <= 0) {
+                putInLane(p);
             }
         }
 
         private void walkOn(int p) {
-            if (!isInLane(p) || way[p] != UP && way[p] != DOWN) {
+            if (way[p] != UP && way[p] != DOWN) {
                 return;
             }
-            int step = way[p] == UP ? 1 : -1;
-            int next = place[p] + step;
+            int next = way[p] == UP ? place[p] + 1 : place[p] - 1;
             if (next < 0 || next >= quarter.places) {
                 way[p] = way[p] == UP ? DOWN : UP;
             } else {
@@ -1226,9 +1228,6 @@ public final class KnockLane {
         }
 
         private void callAtDoor(int p) {
-            if (!isInLane(p)) {
-                return;
-            }
             for (int k = 0; k < callCount && k < CALLS; k++) {
                 if (callPerson[k] == p && quarter.placeOf(callHouse[k]) == place[p]) {
                     how[p] = KNOCKING;
@@ -1265,9 +1264,12 @@ public final class KnockLane {
 
         int answererOf(int p, int busy) {
             int could = thoseWhoCouldAnswer(p) & ~busy;
+            if (could == 0 || !quarter.hasPerson(p)) {
+                return NONE;
+            }
             int best = NONE;
             int bestFar = 0;
-            for (int q = 0; q < PERSONS && q < quarter.persons && quarter.hasPerson(p); q++) {
+            for (int q = 0; q < PERSONS && q < quarter.persons; q++) {
                 int far = Math.abs(place[q] - place[p]);
                 if (hasBit(could, q) && (best == NONE || far < bestFar)) {
                     best = q;
@@ -1282,16 +1284,13 @@ public final class KnockLane {
             if (!quarter.hasPerson(p) || how[p] != KNOCKING) {
                 return 0;
             }
-            int bits = 0;
-            int living = quarter.livingIn(door[p]);
+            int near = 0;
             for (int q = 0; q < PERSONS && q < quarter.persons; q++) {
-                boolean near = Math.abs(place[q] - place[p]) <= quarter.ear;
-                boolean stranger = ((knows[q] | 1 << q) & living) == 0;
-                if (how[q] == IN_LANE && near && stranger) {
-                    bits |= 1 << q;
+                if (how[q] == IN_LANE && Math.abs(place[q] - place[p]) <= quarter.ear) {
+                    near |= 1 << q;
                 }
             }
-            return bits;
+            return near == 0 ? 0 : near & strangersOf(door[p]);
         }
 
         int whomJustTheseKnow(int yes, int no) {
@@ -1662,7 +1661,9 @@ public final class KnockLane {
                     if (scene.tick + a > LAST_TICK) {
                         return 51;
                     }
-                    scene.letTicksGo(a);
+                    for (int t = 0; t < a; t++) {
+                        scene.letTickGo();
+                    }
                     return 0;
             }
         }
