@@ -520,7 +520,7 @@ public final class KnockLane {
 
     /** The bytes that were fed, and the TOKENS along them. */
     private static final class Tape {
-        final long[] words = new long[WORDS];
+        final long[] words = codesOfWords();
         int size;
         int faultKind;
         int faultPlace;
@@ -532,18 +532,20 @@ public final class KnockLane {
         private int next;
         private int begin;
 
-        Tape() {
-            int told = fillWords(words, 0, QUARTER_WORDS);
-            told = fillWords(words, told, BOOK_WORDS);
-            fillWords(words, told, SENTENCE_WORDS);
+        private static long[] codesOfWords() {
+            long[] codes = new long[WORDS];
+            int told = fillCodes(codes, 0, QUARTER_WORDS);
+            told = fillCodes(codes, told, BOOK_WORDS);
+            fillCodes(codes, told, SENTENCE_WORDS);
+            return codes;
         }
 
-        private static int fillWords(long[] words, int from, String text) {
+        private static int fillCodes(long[] codes, int from, String text) {
             int k = from;
             long code = 0;
-            for (int i = 0; i <= text.length() && k < words.length; i++) {
+            for (int i = 0; i <= text.length() && k < codes.length; i++) {
                 if (i == text.length() || text.charAt(i) == ' ') {
-                    words[k] = code;
+                    codes[k] = code;
                     k++;
                     code = 0;
                 } else {
@@ -1432,16 +1434,13 @@ public final class KnockLane {
         private final int[] layer = new int[PERSONS];
         private int size;
 
-        /** Layers go back from the last one, so that the first of like chains is found by walking forth. */
+        /** A layer has all who reach the last one in so many steps; so the first of like chains is found walking forth. */
         int find(Scene scene, int from, int to) {
-            int seen = 1 << to;
-            layer[0] = seen;
+            layer[0] = 1 << to;
             int d = 0;
             while (d + 1 < PERSONS && !hasBit(layer[d], from)) {
-                int next = knownToAny(scene, layer[d]) & ~seen;
-                seen |= next;
                 d++;
-                layer[d] = next;
+                layer[d] = knownToAny(scene, layer[d - 1]);
             }
             if (!hasBit(layer[d], from)) {
                 return NONE;

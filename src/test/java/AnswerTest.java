@@ -29,6 +29,8 @@ public final class AnswerTest {
         x.knock(1, 0);
         Check.due("as if he was the first", x.answer(1), 2);
         Check.due("and so the other", x.answer(0), 2);
+        Check.due("by the first PERSON, too", x.quit(0) + x.answer(1), 0);
+        x.knock(0, 0);
         x.ticks(1);
         Check.due("who is INSIDE", x.answer(0), KnockLane.NONE);
         Check.due("who waited", x.answer(1), 2);

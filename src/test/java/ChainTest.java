@@ -42,7 +42,7 @@ public final class ChainTest {
         chain(x, 0, 1, 0, 1);
         chain(x, 1, 0, 1, 0);
         chain(x, 0, 2, 0, 1, 2);
-        int[][] none = {{0, 3}, {3, 0}, {-1, 0}, {0, -1}, {4, 0}, {0, 4}, {4, 4}, {-1, -1}};
+        int[][] none = {{0, 3}, {3, 0}, {-1, 0}, {0, -1}, {4, 0}, {0, 4}, {4, 4}, {-1, -1}, {0, 32}, {0, 33}, {32, 0}, {34, 1}};
         for (int[] n : none) {
             Check.due("chain(" + n[0] + ", " + n[1] + ")", x.chain(n[0], n[1]), KnockLane.NONE);
             at(x, 0, 1, 2);
@@ -113,6 +113,10 @@ public final class ChainTest {
         Check.due("c and d", Check.who(x, 1, 1), 12);
         Check.due("c, the first of those who are not both left", x.ask(), 2);
         Check.due("one", Check.who(x, 0, 0, 1, 0, 2, 0, 3, 0), 16);
+        Check.due("all are alike", x.ask(), 0);
+        Check.due("c and d", Check.who(x, 1, 1), 12);
+        Check.due("c again", x.ask(), 2);
+        Check.due("a alone", Check.who(x, 1, 0, 2, 0, 3, 0, 4, 0), 1);
         Check.due("all are alike", x.ask(), 0);
         // Whom h does not KNOW: a..g. c KNOWS a, b, d; e, f, g and himself are the others: 3.
         x = Check.lane(EIGHT + "knows c a;knows c b;knows c d;knows e a;");

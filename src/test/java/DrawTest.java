@@ -3,6 +3,8 @@ public final class DrawTest {
     private static final String TEXT = "lane 7;house h 2;house g 3;house f 5;person a h 2 up kind;person b tramp 3 down stern;"
         + "person c g 5 stands kind;person d tramp 4 up stern;person e tramp 1 up kind;knows a b;calls c h;";
     private static final String NO_HOUSES = "lane 3;person a tramp 1 up kind;person b tramp 0 stands kind;";
+    private static final String ONE_HOUSE = "lane 4;house h 2;person a tramp 1 up kind;person b tramp 2 stands stern;"
+        + "person c h 0 down kind;";
     private static int x;
 
     public static void main(String[] args) {
@@ -66,7 +68,7 @@ public final class DrawTest {
     }
 
     private static void asTheDrawsTell() {
-        String[] texts = {TEXT, NO_HOUSES};
+        String[] texts = {TEXT, NO_HOUSES, ONE_HOUSE};
         for (String text : texts) {
             for (int i = 0; i < 40; i++) {
                 int seed = i * 0x12345677 + 5;

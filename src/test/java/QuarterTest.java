@@ -75,6 +75,9 @@ public final class QuarterTest {
         bad("house h h;", 1, 8);
         bad("house h 1 up;", 1, 10);
         bad("house (h) 1;", 1, 6);
+        bad("house . 1;", 1, 6);
+        bad("house h 1;person p . 1 up kind;", 1, 19);
+        bad("house \u0000 1;", 1, 6);
         for (String word : Model.WORDS) {
             bad("house " + word + " 1;", 1, 6);
             bad("person " + word + " tramp 1 up kind;", 1, 7);
@@ -184,6 +187,10 @@ public final class QuarterTest {
         bad(blanks(898) + "lane 19;", 1, 900);
         bad(blanks(898) + "house h 1;", 1, 900);
         bad(blanks(899) + "lane", 1, 900);
+        bad(blanks(895) + "lane 99;", 1, 900);
+        bad("ear 1;" + blanks(894) + "ear 1;", 1, 900);
+        bad(blanks(894) + "house lane 1;", 1, 900);
+        bad("house h 1;" + blanks(884) + "house h 1;", 1, 900);
         bad(blanks(898) + "lanes", 1, 898);
         bad(blanks(910) + "x", 1, 900);
         bad("lane 5" + blanks(900), 1, 900);
@@ -205,14 +212,16 @@ public final class QuarterTest {
     }
 
     private static void aNewQuarter() {
-        KnockLane x = Check.lane("house h 5;person a tramp 5 stands stern;person b tramp 5 stands stern;knows a b;");
+        KnockLane x = Check.lane("lane 6;ear 0;stay 9;house h 5;person a tramp 5 stands stern;person b tramp 5 stands stern;"
+            + "person o h 0 stands kind;person q tramp 5 stands kind;knows a b;knows o q;calls q h;");
+        x.knock(3, 0);
         Check.sentence(x, "stern");
         x.knock(0, 0);
         x.ticks(1);
         x.knock(1, 0);
         x.ticks(1);
-        Check.due("opened", x.now(6), 2);
-        Check.due("shut", x.now(7), 2);
+        Check.due("opened", x.now(6) > 0, true);
+        Check.due("shut", x.now(7) > 0, true);
         Check.due("a new one", Check.quarter(x, "person c tramp 7 down kind;person d tramp 8 down kind;"), 2);
         int[] due = {0, 3, 0, 0, 0, 0, 0, 0};
         for (int w = 0; w < 8; w++) {
@@ -225,6 +234,13 @@ public final class QuarterTest {
         Check.due("no SENTENCE", x.said(-1), KnockLane.NONE);
         Check.due("no HOUSE", x.house(0, 0), KnockLane.NONE);
         Check.due("nothing to undo", x.undo(), KnockLane.NONE);
+        Check.due("PLACES, ear, stay", x.count(2) * 100 + x.count(3) * 10 + x.count(4), 1023);
+        Check.due("one HOUSE, one PERSON", Check.quarter(x, "house g 5;person c tramp 5 stands kind;"), 2);
+        Check.due("nobody lives there", x.house(0, 1), 0);
+        Check.due("who lived in the old one is no matter", x.house(0, 2), 1);
+        x.knock(0, 0);
+        Check.due("those of the old one do not answer", x.answer(0), KnockLane.NONE);
+        Check.due("nor could they", x.most(), 0);
         Check.due("an empty one", x.quarter(), 0);
         Check.due("10 PLACES", x.count(2), 10);
         Check.due("no PERSONS", x.count(1), 0);

@@ -26,6 +26,16 @@ public final class TellTest {
         Check.due("how often", Check.person(x, 2, 8), 2);
         Check.due("in all", x.now(6), 3);
         Check.due("without PERSONS", new KnockLane().busiest(), KnockLane.NONE);
+        x = Check.lane("house h 5;person a tramp 5 stands kind;person b tramp 5 stands kind;stay 1;");
+        x.knock(1, 0);
+        Check.due("KNOCKING there", x.house(0, 3), 2);
+        x.ticks(2);
+        Check.due("a", x.busiest(), 0);
+        x.knock(0, 0);
+        Check.due("KNOCKING there", x.house(0, 3), 1);
+        x.ticks(1);
+        Check.due("a is the first of like ones", x.busiest(), 0);
+        Check.due("INSIDE there", x.house(0, 4), 1);
     }
 
     private static void mean(String text, int above, int below) {

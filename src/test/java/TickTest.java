@@ -9,6 +9,7 @@ public final class TickTest {
         answering();
         nearestOrFirst();
         onceInATick();
+        eachAnswersOnce();
         judging();
         shutOutAnswers();
         whoLivesThereIsKnown();
@@ -164,6 +165,21 @@ public final class TickTest {
         person(x, 1, 7, 1);
         person(x, 2, 8, 2);
         person(x, 2, 5, 3);
+    }
+
+    private static void eachAnswersOnce() {
+        KnockLane x = Check.lane("house h 5;person a tramp 5 stands kind;person b tramp 5 stands kind;"
+            + "person c tramp 5 stands kind;person d tramp 5 stands kind;person e tramp 5 stands kind;");
+        x.knock(0, 0);
+        x.knock(1, 0);
+        x.knock(2, 0);
+        x.ticks(1);
+        is(x, 0, 2, 5);
+        is(x, 1, 2, 5);
+        is(x, 2, 1, 5);
+        person(x, 3, 8, 1);
+        person(x, 4, 8, 1);
+        person(x, 4, 5, 2);
     }
 
     private static void judging() {

@@ -6,6 +6,7 @@ public final class UndoTest {
     public static void main(String[] args) {
         eachAct();
         eightAreKept();
+        refusedBehindEight();
         whatIsNotKept();
         aQuarterEndsIt();
         imagesKeepAll();
@@ -65,6 +66,26 @@ public final class UndoTest {
         x.ticks(3);
         Check.due("undo() of the latest", x.undo(), 3);
         Check.due("TICK", x.now(0), 43);
+    }
+
+    /** An act that can't be done leaves all eight as they are. */
+    private static void refusedBehindEight() {
+        KnockLane x = Check.lane(TEXT);
+        String before = Check.all(x);
+        for (int i = 0; i < 8; i++) {
+            x.ticks(1);
+        }
+        x.knock(0, 0);
+        x.go(1, 2);
+        x.quit(1);
+        x.meets(0, 3);
+        x.calls(0, 0);
+        Check.book(x, 1, "b quits;");
+        for (int i = 7; i >= 0; i--) {
+            Check.due("undo()", x.undo(), i);
+            Check.due("TICK", x.now(0), i);
+        }
+        Check.due("as it was", Check.all(x), before);
     }
 
     private static void whatIsNotKept() {
