@@ -1,19 +1,19 @@
 /** Promises 24 to 26: opens, known, meet. */
 public final class AheadTest {
     /** v begins to KNOCK in TICK 4 and is let in in TICK 318. */
-    private static final String LONG_OPENS = "lane 17;house h 15;house g 9;house f 15;house e 14;house d 13;house c 16;"
+    static final String LONG_OPENS = "lane 17;house h 15;house g 9;house f 15;house e 14;house d 13;house c 16;"
         + "person p e 4 down kind;person q tramp 14 up kind;person r tramp 8 down kind;person s tramp 8 down kind;"
         + "person t c 16 up kind;person u tramp 9 up kind;person v tramp 10 up kind;person w tramp 8 up kind;ear 0;stay 30;"
         + "calls q d;calls s h;calls w d;calls s e;calls u e;calls r e;calls s c;calls w e;calls w h;calls v e;calls s f;"
         + "calls q e;";
     /** All are known behind 313 TICKS. */
-    private static final String LONG_KNOWN = "lane 17;house h 13;house g 5;house f 9;person p h 1 stands stern;"
+    static final String LONG_KNOWN = "lane 17;house h 13;house g 5;house f 9;person p h 1 stands stern;"
         + "person q g 8 down kind;person r f 12 down kind;person s tramp 11 down kind;person t tramp 10 up stern;"
         + "person u tramp 7 up kind;person v tramp 5 up kind;person w tramp 16 up kind;ear 0;stay 28;calls v f;calls v g;"
         + "calls w h;calls w g;calls u f;calls u g;calls v h;calls s h;calls t h;calls q h;calls u h;calls q f;knows t w;"
         + "knows u r;knows p v;knows t v;";
     /** r and t meet behind 305 TICKS. */
-    private static final String LONG_MEET = "lane 20;house h 3;house g 13;house f 15;house e 2;house d 6;house c 0;"
+    static final String LONG_MEET = "lane 20;house h 3;house g 13;house f 15;house e 2;house d 6;house c 0;"
         + "person p h 19 up kind;person q tramp 10 down kind;person r tramp 1 down kind;person s tramp 2 down kind;"
         + "person t tramp 3 up kind;ear 0;stay 28;calls t e;calls q c;calls r h;calls p e;calls r d;calls s h;calls p d;"
         + "calls s e;calls s d;calls s c;calls t f;calls t h;";
