@@ -30,6 +30,7 @@ public final class EdgeAskTest {
         noHousesNoDraw();
         eachIfItCanBe();
         thenTheTick();
+        drawsGoOn();
         aThrowChangesNothing();
         Check.finish("EdgeAskTest");
     }
@@ -478,6 +479,28 @@ public final class EdgeAskTest {
         y.ticks(1);
         Check.due("a is let in", Check.person(x, 0, 0), 2);
         Check.due("as by hand", Check.all(x), Check.all(y));
+    }
+
+    /** Two PERSONS without HOUSES: each draws of 8, and of 3 behind a 1, TICK by TICK; no draw comes between. */
+    private static void drawsGoOn() {
+        Check.says("DRAWN by a seed x: for each draw of n");
+        for (int seed = 0; seed < 40; seed++) {
+            KnockLane x = Check.lane("lane 20;" + Check.tramps("ab", 10));
+            KnockLane y = Check.lane("lane 20;" + Check.tramps("ab", 10));
+            int n = 0;
+            for (int t = 0; t < 9; t++) {
+                for (int p = 0; p < 2; p++) {
+                    n++;
+                    if ((drawn(seed, n) >> 8) % 8 == 1) {
+                        n++;
+                        y.go(p, (int) ((drawn(seed, n) >> 8) % 3));
+                    }
+                }
+                y.ticks(1);
+            }
+            Check.due("drawn(9, " + seed + ")", x.drawn(9, seed), 9);
+            Check.due("as by hand", Check.all(x), Check.all(y));
+        }
     }
 
     private static void aThrowChangesNothing() {

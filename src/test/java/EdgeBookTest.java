@@ -267,6 +267,8 @@ public final class EdgeBookTest {
         told(x, 21, 39, 39, 0);
         Check.book(x, 0, "b quits;tick 1;");
         told(x, 21, 0, 0, 0);
+        Check.none("an empty one behind a WRONG one", Check.book(x, 0, ""));
+        told(x, 0, 0, 0, 0);
     }
 
     private static void theTickThen() {

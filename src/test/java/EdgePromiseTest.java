@@ -28,6 +28,7 @@ public final class EdgePromiseTest {
         ticks1To60();
         undoEach();
         undoEight();
+        undoKeepsAllEight();
         undoNone();
         answerNone();
         thoseAheadOfAny();
@@ -468,6 +469,26 @@ public final class EdgePromiseTest {
         }
     }
 
+    /** Eight are kept, and each of these calls is refused or does nothing: none of the eight goes. */
+    private static void undoKeepsAllEight() {
+        Check.says("that was done");
+        KnockLane x = Check.lane("house i 5;" + Check.tramps("ab", 5));
+        for (int i = 0; i < 9; i++) {
+            x.ticks(1);
+        }
+        int[] refused = {x.knock(0, 1), x.go(0, 2), x.quit(0), x.meets(0, 0), x.calls(0, 6), x.ticks(0), x.drawn(61, 1)};
+        int[] due = {-1, 2, 1, -1, -1, -1, -1};
+        for (int i = 0; i < due.length; i++) {
+            Check.due("refused " + i, refused[i], due[i]);
+        }
+        Check.due("a BOOK that is WRONG at once", Check.book(x, 1, "a quits;"), 0);
+        for (int i = 7; i >= 0; i--) {
+            Check.due("undo()", x.undo(), i);
+            Check.due("TICK", x.now(0), 1 + i);
+        }
+        Check.none("undo()", x.undo());
+    }
+
     private static void undoNone() {
         Check.says("NONE: none is.");
         KnockLane x = new KnockLane();
@@ -574,6 +595,8 @@ public final class EdgePromiseTest {
         Check.due("who() of 0", Check.who(x, 0, 1), 0);
         Check.none("who()", Check.who(x, 3, 1));
         Check.due("ask()", x.ask(), 1);
+        Check.due("who() of 1: a alone", Check.who(x, 1, 0, 2, 0), 1);
+        Check.due("ask()", x.ask(), 0);
     }
 
     private static void askByWhatWasSo() {

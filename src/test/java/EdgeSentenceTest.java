@@ -222,6 +222,8 @@ public final class EdgeSentenceTest {
         said("stern" + " or stern".repeat(18), 19, 10);
         said("stern" + " or stern".repeat(19), 20, 10);
         bad("stern" + " or stern".repeat(20), 4, 180);
+        said("inside or ".repeat(19) + "stern", 20, 11);
+        said("stern" + " or inside".repeat(19), 20, 11);
         said("not stern" + " and not stern".repeat(9), 20, 5);
         said("(stern)" + "or(stern)".repeat(9), 20, 10);
         bad("not stern" + " and not stern".repeat(9) + " or stern", 4, 139);
@@ -278,6 +280,10 @@ public final class EdgeSentenceTest {
         Check.feed(x, "stern");
         Check.due("sentence()", x.sentence(), 1);
         Check.due("the tape is empty then", x.count(5), 0);
+        for (int i = 0; i < 12; i++) {
+            Check.due("one behind another", Check.sentence(x, "inside or ".repeat(18) + "number = " + i % 4), 19);
+            Check.due("the latest is said", Check.saidBits(x), 1 | 1 << i % 4);
+        }
     }
 
     private static void itStays() {
