@@ -20,6 +20,7 @@ public final class EdgePromiseTest {
         personsDetails();
         callNone();
         nowNone();
+        nowOpenedAndShut();
         knockNone();
         goNone();
         quitNone();
@@ -296,6 +297,24 @@ public final class EdgePromiseTest {
         for (int w : none) {
             Check.none("now(" + w + ")", x.now(w));
         }
+    }
+
+    /** b KNOCKS and the stern a lets him in, then shuts him out; then a KNOCKS and b lets him in. */
+    private static void nowOpenedAndShut() {
+        Check.says("6 how often one OPENED, 7 how often it was shut, so far.");
+        KnockLane x = Check.lane("house i 5;person a tramp 5 stands stern;" + Check.tramps("b", 5) + "stay 1;");
+        int[] who = {1, 1, 0};
+        int[] opened = {1, 2, 3};
+        int[] shut = {0, 1, 1};
+        Check.due("at first", x.now(6) * 10 + x.now(7), 0);
+        for (int i = 0; i < 3; i++) {
+            Check.due("knock()", x.knock(who[i], 0), 0);
+            Check.due("ticks(2)", x.ticks(2), 2);
+            Check.due("now(6)", x.now(6), opened[i]);
+            Check.due("now(7)", x.now(7), shut[i]);
+        }
+        Check.due("by a and by b", Check.person(x, 0, 8) * 10 + Check.person(x, 1, 8), 21);
+        Check.due("undone", x.undo() + x.now(6) * 10 + x.now(7), 26);
     }
 
     private static int act(KnockLane x, int which, int p, int other) {
@@ -956,5 +975,9 @@ public final class EdgePromiseTest {
         Check.due("one PERSON again", Check.quarter(x, Check.tramps("a", 1)), 1);
         Check.due("mean()", Check.mean(x, 0) * 10 + Check.mean(x, 1), 1);
         Check.due("whom he KNOWS", Check.person(x, 0, 5), 0);
+        Check.due("f would part the others best", Check.quarter(x, Check.tramps("abcdef", 1) + "knows f a;knows f b;"), 8);
+        Check.due("but f is not there any more", Check.quarter(x, Check.tramps("abcde", 1)), 5);
+        Check.due("all but e", Check.who(x, 4, 0), 15);
+        Check.due("ask()", x.ask(), 0);
     }
 }
