@@ -1353,7 +1353,15 @@ public final class KnockLane {
         }
 
         void note(Scene scene) {
-            scenes[(first + size) % ROOMS].copyFrom(scene);
+            Scene room = roomBehind(size);
+            if (room != null) {
+                room.copyFrom(scene);
+            }
+        }
+
+        private Scene roomBehind(int many) {
+            int i = (first + many) % ROOMS;
+            return i >= 0 && i < ROOMS ? scenes[i] : null;
         }
 
         int keepIfDone(int why) {
@@ -1379,11 +1387,12 @@ public final class KnockLane {
         }
 
         int bringBack(Scene scene) {
-            if (size < 1) {
+            Scene room = roomBehind(size - 1);
+            if (size < 1 || room == null) {
                 return NONE;
             }
             size--;
-            scene.copyFrom(scenes[(first + size) % ROOMS]);
+            scene.copyFrom(room);
             return size;
         }
 
